@@ -479,15 +479,17 @@ public final class OneMirror {
         return canAct() && !isle.tellings.isFull();
     }
 
+    /** Who LOOKS in the HOUR has no boat to themselves: it is enough to know who did ahead of it. */
     private void runHour(Rule rule) {
+        int lookers = isle.lookers();
         if (!isle.tellings.isFull()) {
-            if (isle.looksOf(isle.glass) == 0) {
+            if ((lookers >> isle.glass & 1) == 0) {
                 isle.addLook();
             } else {
                 tellWhoHeedsMost(rule);
             }
         }
-        int next = isle.nextToLook();
+        int next = isle.nextToLook(lookers);
         if (!isle.isKept && next != NONE) {
             isle.glass = next;
         }
@@ -1411,9 +1413,20 @@ public final class OneMirror {
             return looks;
         }
 
-        private int nextToLook() {
+        /** As bits all who ever LOOKED. */
+        private int lookers() {
+            int bits = 0;
+            for (int t = 0; t < tellings.size; t++) {
+                if (isLook(t)) {
+                    bits |= 1 << tellings.at(t, TELLER);
+                }
+            }
+            return bits;
+        }
+
+        private int nextToLook(int lookers) {
             for (int person = 0; person < people; person++) {
-                if (hasBoat(glass, person) && looksOf(person) == 0) {
+                if (hasBoat(glass, person) && (lookers >> person & 1) == 0) {
                     return person;
                 }
             }
@@ -1629,7 +1642,7 @@ public final class OneMirror {
 
     /**
      * The best ROUND. For each hour and person there is the set of all sets of WISHES that can be served
-     * from there on: one bit for each of the 1024 sets, so that a whole step takes a few words.
+     * from there on: one bit for each of the 1024 sets at most, so that a whole step takes a few words.
      */
     private static final class Rounds {
         private static final int MOST_HOURS = 16;
@@ -1647,6 +1660,7 @@ public final class OneMirror {
         private final long[] reach;
         private final int[] worths;
         private final int[] seats;
+        private int words;
         private int best;
 
         private Rounds() {
@@ -1667,12 +1681,16 @@ public final class OneMirror {
             follow(isle, hours);
         }
 
+        /** Of all sets of the WISHES there are; no more words are used than these fill. */
         private void addWorths(Isle isle) {
             worths[0] = 0;
-            for (int set = 1; set < SETS; set++) {
-                int last = 31 - Integer.numberOfLeadingZeros(set);
-                int worth = isle.wishes.has(last) ? isle.wishes.at(last, Isle.WORTH) : 0;
-                worths[set] = worths[set & ~(1 << last)] + worth;
+            words = 1;
+            for (int wish = 0; wish < isle.wishes.size && wish < Isle.MOST_WISHES; wish++) {
+                int sets = 1 << wish;
+                for (int set = 0; set < sets; set++) {
+                    worths[sets + set] = worths[set] + isle.wishes.at(wish, Isle.WORTH);
+                }
+                words = Math.max(1, Math.min(2 * sets / WORD_BITS, WORDS));
             }
         }
 
@@ -1699,7 +1717,7 @@ public final class OneMirror {
         /** What can be served in the hours behind this one; in the last one nothing more. */
         private void gather(Isle isle, int hour, int person, boolean isLast) {
             int start = start(hour, person);
-            for (int word = 0; word < WORDS; word++) {
+            for (int word = 0; word < words; word++) {
                 reach[start + word] = 0;
             }
             if (isLast) {
@@ -1709,7 +1727,7 @@ public final class OneMirror {
             for (int next = 0; next < isle.people; next++) {
                 if (canGo(isle, person, next)) {
                     int other = start(hour + 1, next);
-                    for (int word = 0; word < WORDS; word++) {
+                    for (int word = 0; word < words; word++) {
                         reach[start + word] |= reach[other + word];
                     }
                 }
@@ -1730,14 +1748,14 @@ public final class OneMirror {
         }
 
         private void serveWithinWords(int start, int wish) {
-            for (int word = 0; word < WORDS; word++) {
+            for (int word = 0; word < words; word++) {
                 long sets = reach[start + word];
                 reach[start + word] = (sets & ~WITHOUT[wish]) | (sets & WITHOUT[wish]) << (1 << wish);
             }
         }
 
         private void serveByWords(int start, int stride) {
-            for (int word = 0; word + stride < WORDS; word++) {
+            for (int word = 0; word + stride < words; word++) {
                 if ((word & stride) == 0) {
                     reach[start + word + stride] |= reach[start + word];
                     reach[start + word] = 0;
@@ -1748,7 +1766,7 @@ public final class OneMirror {
         /** The most that can be served from there on, with what was served ahead of it. */
         private int mostWith(int start, int ahead) {
             int most = 0;
-            for (int word = 0; word < WORDS; word++) {
+            for (int word = 0; word < words; word++) {
                 long sets = reach[start + word];
                 for (int bit = 0; bit < WORD_BITS && sets != 0; bit++) {
                     if ((sets & 1) != 0) {

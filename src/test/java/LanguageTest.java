@@ -10,7 +10,7 @@ import java.util.regex.Pattern;
 /** Rules of LANGUAGE.md that can be seen in the text of the class. It is run from the project's own place. */
 public final class LanguageTest {
     private static final Set<String> LIBRARY = Set.of("Math.max", "Math.min", "Math.abs", "Math.floorMod",
-        "Integer.bitCount", "Integer.numberOfLeadingZeros", "System.arraycopy");
+        "Integer.bitCount", "System.arraycopy");
 
     private LanguageTest() {
     }
