@@ -30,6 +30,7 @@ public final class IslandTest {
         good("marks 6;person 63 0;person 0 99;tie 0 1 9;tie 1 0 1;boat 0 1;glass 1;glass 0", 2);
         good("marks 2;" + "person 3 1;".repeat(7) + "person 0 0", 8);
         good("marks 1;person 0 0;" + "glass 0;".repeat(37) + "glass 0", 1);
+        good(" ".repeat(382) + "marks 1;person 0 0", 1);
     }
 
     private static void faultsOfMarks() {
@@ -58,6 +59,9 @@ public final class IslandTest {
         Check.islandFault("\u00ff", 0, 0);
         Check.islandFault(";", 0, 0);
         Check.islandFault("1", 0, 0);
+        Check.islandFault(";".repeat(400), 0, 0);
+        Check.islandFault("marks 1" + " ".repeat(393), 400, 0);
+        Check.islandFault("marks 1;" + "1".repeat(392), 8, 0);
     }
 
     private static void faultsOfPeople() {

@@ -70,6 +70,12 @@ public final class RuleTest {
         Check.ruleFault("tell 1\0", 6, 0);
         Check.ruleFault("tell 1;;tell 1", 7, 0);
         Check.ruleFault("tell1if1=1;Weigh 1", 11, 0);
+        Check.ruleFault("tell 1 ifz 1=1", 7, 0);
+        Check.ruleFault("tell 1 if" + "a".repeat(391), 7, 0);
+        Check.ruleFault("tell " + "1".repeat(395), 5, 1);
+        Check.ruleFault("[".repeat(400), 0, 0);
+        Check.ruleFault("tell 1" + " ".repeat(393) + ";", 400, 0);
+        good("tell 1" + " ".repeat(394));
     }
 
     private static void faultsOfTests() {
