@@ -290,7 +290,7 @@ public final class ModelTest {
             }
             case 34: {
                 int n = less(10) == 0 ? near(18) : 1 + less(16);
-                int w = less(5) == 0 ? -1 : near(Math.max(1, n));
+                int w = less(5) == 0 ? -1 : near(Math.max(1, Math.min(n, 16)));
                 same("round " + n + " " + w, mirror.round(n, w), model.round(n, w));
                 break;
             }
