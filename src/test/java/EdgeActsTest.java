@@ -43,6 +43,7 @@ public final class EdgeActsTest {
         undoOfNone();
         undoAtTheLastHour();
         undoAfterAnother();
+        undoWithEightPeople();
         Check.finish();
     }
 
@@ -380,6 +381,29 @@ public final class EdgeActsTest {
         Check.due("undo", m.undo(), 1);
         Check.due("HOUR", m.count(4), 9998);
         Check.due("rest", m.rest(), 9999);
+    }
+
+    private static void undoWithEightPeople() {
+        Check.sentence("P20: The last ACT is UNDONE");
+        OneMirror m = Check.withIsland("marks 1" + ";person 0 9".repeat(8) + ";glass 0;boat 0 7");
+        m.save();
+        m.sell(0, 7, 4);
+        m.give(7);
+        m.save();
+        m.sell(7, 0, 14);
+        Check.due("0 has 13 COINS alone", m.count(9), 4);
+        m.sell(7, 0, 12);
+        for (int i = 4; i >= 0; i--) {
+            Check.due("undo", m.undo(), i);
+            Check.due("COINS of 0", m.person(0, 1), i >= 2 ? 13 : 9);
+            Check.due("COINS of 7", m.person(7, 1), i >= 2 ? 5 : 9);
+            Check.due("TURNS of 0", m.person(0, 2), i == 1 ? 1 : 0);
+            Check.due("TURNS of 7", m.person(7, 2), i == 4 ? 2 : i >= 2 ? 1 : 0);
+            for (int p = 1; p < 7; p++) {
+                Check.due("COINS of " + p, m.person(p, 1), 9);
+                Check.due("TURNS of " + p, m.person(p, 2), 0);
+            }
+        }
     }
 
     private static void undoAfterAnother() {

@@ -194,6 +194,7 @@ public final class EdgeAskTest {
         Check.sentence("III: who flatters most (above 0)");
         OneMirror m = four();
         Check.due("nobody told", m.flatters(0, 1), -1);
+        Check.due("nobody else is", Check.withIsland("marks 1;person 0 0").flatters(0, 1), -1);
         m.tell(0, 1, 0, 0);
         Check.due("0 is not above 0", m.flatters(0, 1), -1);
         m.tell(2, 2, 0, 0);

@@ -8,6 +8,7 @@ public final class EdgeBeliefTest {
     public static void main(String[] args) {
         personWithout();
         personChangesNothing();
+        howOftenTheyLooked();
         boatsAsBits();
         keepsTheGlass();
         sumWithout();
@@ -53,6 +54,19 @@ public final class EdgeBeliefTest {
             int what = i;
             Edge.nothing(Edge::rich, "person 1 " + what, m -> m.person(1, what), due[what]);
         }
+    }
+
+    private static void howOftenTheyLooked() {
+        Check.sentence("P7: 3: how often they LOOKED");
+        OneMirror m = Check.withIsland(TWO);
+        for (int i = 0; i < 40; i++) {
+            Check.due("LOOKED", m.person(0, 3), i);
+            m.look();
+        }
+        Check.due("LOOKED", m.person(0, 3), 40);
+        Check.due("the other one", m.person(1, 3), 0);
+        m.undo();
+        Check.due("undone", m.person(0, 3), 39);
     }
 
     private static void boatsAsBits() {

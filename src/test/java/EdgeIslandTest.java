@@ -36,10 +36,12 @@ public final class EdgeIslandTest {
         blanksBetween();
         blanksWithin();
         bytesThatCantStand();
+        fourHundredTimesAByte();
         theEnd();
         theFirstFault();
         theLeastOfOnePlace();
         islandInPlaceOfAnother();
+        islandAfterOthers();
         islandOfAnEmptyTape();
         faultLeavesAll();
         Check.finish();
@@ -285,7 +287,11 @@ public final class EdgeIslandTest {
         badBehind(TWO + ";", "glasss 1", 0);
         badBehind("marks 1;", "tell 1", 0);
         badBehind("marks 1;", "face 1", 0);
-        badBehind("marks 1;person 0 0", "a", 0);
+        for (char letter = 'a'; letter <= 'z'; letter++) {
+            badBehind("", "marks" + letter + "1", 0);
+            badBehind(ONE + ";", "glass" + letter + " 0", 0);
+            badBehind(ONE, String.valueOf(letter), 0);
+        }
     }
 
     private static void blanksBetween() {
@@ -317,6 +323,13 @@ public final class EdgeIslandTest {
                 badBehind("marks ", c + "1", 0);
                 badBehind("marks 1;person", c + "0 0", 0);
             }
+        }
+    }
+
+    private static void fourHundredTimesAByte() {
+        Check.sentence("I, FAULTS: 0 a byte or WORD that can't stand there, or the end");
+        for (int sign = 0; sign < 256; sign++) {
+            Check.islandFault(String.valueOf((char) sign).repeat(400), sign == ' ' ? 400 : 0, 0);
         }
     }
 
@@ -371,6 +384,21 @@ public final class EdgeIslandTest {
             Check.due("tie to " + p, m.tie(1, (p + 2) % 4), p == 3 ? -1 : 0);
         }
         Check.due("undo", m.undo(), -1);
+    }
+
+    private static void islandAfterOthers() {
+        Check.sentence("P4: in place of the one there was");
+        String text = "marks 3;person 1 1;person 2 2;person 4 4;person 7 7";
+        String richer = "marks 6" + ";person 63 99".repeat(8) + ";tie 0 1 9;tie 2 1 9;boat 0 1;boat 1 2;boat 2 3;glass 3";
+        Edge.alike("the one before the last was rich",
+            () -> Edge.with(Edge::rich, m -> Check.island(m, richer) + Check.island(m, text)),
+            () -> Edge.with(Edge::early, m -> Check.island(m, text) + m.seed(4711)));
+        Edge.alike("HOURS were DRAWN ahead of it",
+            () -> Edge.with(Edge::rich, m -> m.drawn(0, 20, 60, 50, 0) + Check.island(m, text)),
+            () -> Edge.with(Edge::early, m -> Check.island(m, text) + m.seed(4711)));
+        Edge.alike("one with a FAULT was ahead of it",
+            () -> Edge.with(Edge::early, m -> Check.island(m, richer + ";") + Check.island(m, text)),
+            () -> Edge.with(Edge::early, m -> Check.island(m, text)));
     }
 
     private static void islandOfAnEmptyTape() {

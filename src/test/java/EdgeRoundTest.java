@@ -139,6 +139,8 @@ public final class EdgeRoundTest {
         m.wish(0, 0, 0, 9);
         m.wish(1, 0, 0, 4);
         row(m, 4, 1);
+        m.wish(2, 2, 2, 5);
+        row(m, 9, 1, 1, 2);
     }
 
     private static void roundOfSixteen() {

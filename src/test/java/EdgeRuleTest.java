@@ -41,12 +41,14 @@ public final class EdgeRuleTest {
         sixtyFirstValue();
         sixtyFirstFact();
         bytesThatCantStand();
+        fourHundredTimesAByte();
         theEnd();
         theFirstFault();
         theLeastOfOnePlace();
         sixRules();
         seventhRule();
         faultIsNoRule();
+        afterManyFaults();
         forced();
         forcedNone();
         noSuchRule();
@@ -273,6 +275,12 @@ public final class EdgeRuleTest {
         badBehind("tell 1 if 1=1 ", "orr 1=1", 0);
         badBehind("tell 1 if 1=1 ", "andnot 1=1", 0);
         badBehind("tell 1 if ", "nott 1=1", 0);
+        for (char letter = 'a'; letter <= 'z'; letter++) {
+            badBehind("", "weigh" + letter + " 1", 0);
+            badBehind("tell ", "face" + letter, 0);
+            badBehind("tell 1 ", "if" + letter + " 1=1", 0);
+            badBehind("tell 1", String.valueOf(letter), 0);
+        }
         good("tell face if1=1or[2=2]and not3=3");
     }
 
@@ -290,6 +298,11 @@ public final class EdgeRuleTest {
         m.tell(0, 1, 0, 0);
         Check.due("1 heeds 0", m.telling(0, 3), 7);
         Check.due("without", m.telling(1, 3), 0);
+        Check.rule(m, "tell moved + steps");
+        m.retell(0, 0, 0);
+        m.person(0, 4);
+        m.tell(1, 1, 0, 0);
+        Check.due("0 still, though one was weighed that has moved and was retold", m.telling(3, 3), 0);
     }
 
     private static void wordsOfWeigh() {
@@ -470,6 +483,13 @@ public final class EdgeRuleTest {
         }
     }
 
+    private static void fourHundredTimesAByte() {
+        Check.sentence("I, FAULTS: 0 a byte or WORD that can't stand there, or the end");
+        for (int sign = 0; sign < 256; sign++) {
+            Check.ruleFault(String.valueOf((char) sign).repeat(400), sign == ' ' ? 400 : 0, 0);
+        }
+    }
+
     private static void theEnd() {
         Check.sentence("I, FAULTS: 0 the end (behind the last byte)");
         for (String text : new String[] {"", "  ", "tell", "weigh  ", "tell 1 +", "tell 1 if", "tell 1 if not", "tell 1 if [",
@@ -548,6 +568,22 @@ public final class EdgeRuleTest {
             m.tell(2, 0, 1, 1);
             Check.due("told by it", m.telling(4, 3), 6);
         }
+    }
+
+    private static void afterManyFaults() {
+        Check.sentence("P5: its number");
+        OneMirror m = Check.withIsland("marks 6;person 9 0;person 37 0");
+        for (int i = 0; i < 20; i++) {
+            Check.due("60 VALUES, and a byte that can't stand there", Check.rule(m, "tell " + values(60) + "]"),
+                Check.fault(124, 0));
+        }
+        Check.due("60 VALUES", Check.rule(m, "tell " + values(60)), 0);
+        m.tell(0, 0, 1, 1);
+        Check.due("told by it", m.telling(0, 3), 60);
+        Check.due("two that tell, and a FAULT", Check.rule(m, "tell 1;tell 2;x"), Check.fault(14, 0));
+        Check.due("one that weighs alone", Check.rule(m, "weigh 4"), 1);
+        m.tell(1, 0, 1, 1);
+        Check.due("told by it", m.telling(1, 3), 37);
     }
 
     private static void forced() {

@@ -159,7 +159,7 @@ public final class EdgeViewTest {
         OneMirror m = three();
         OneMirror same = three();
         for (int i = 0; i < 8; i++) {
-            m.view(7, i);
+            m.view(7, 7 - i);
             same.view(7, 3);
             Check.due("each another one", m.views(0), i + 1);
             Check.due("each the same", same.views(0), 1);
@@ -167,8 +167,8 @@ public final class EdgeViewTest {
         OneMirror six = Check.withIsland("marks 6;person 0 0");
         for (int i = 0; i < 8; i++) {
             six.view(63, 63 - i);
+            Check.due("of 64", six.views(0), i + 1);
         }
-        Check.due("of 64", six.views(0), 8);
     }
 
     private static void facesOfAnyMarks() {
