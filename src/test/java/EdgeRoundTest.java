@@ -138,8 +138,10 @@ public final class EdgeRoundTest {
         OneMirror m = line();
         m.wish(0, 0, 0, 9);
         m.wish(1, 0, 0, 4);
+        m.wish(0, 1, 1, 1);
         row(m, 4, 1);
         m.wish(2, 2, 2, 5);
+        row(m, 5, 1, 0);
         row(m, 9, 1, 1, 2);
     }
 

@@ -5,6 +5,7 @@ public final class EdgeTapeTest {
 
     public static void main(String[] args) {
         aNewObject();
+        fiveHundredTwelveCalls();
         feedsUpToTheBrim();
         feedBeyondTheBrim();
         feedBeyondByOne();
@@ -35,6 +36,17 @@ public final class EdgeTapeTest {
         Check.due("person", m.person(0, 0), -1);
         Check.due("no RULE 0", m.force(0), -2);
         Check.due("no IMAGE", m.back(0), -1);
+    }
+
+    private static void fiveHundredTwelveCalls() {
+        Check.sentence("An object is used for at most 512 calls after it has been made");
+        OneMirror m = new OneMirror();
+        // "marks 1;person 1 7  "
+        m.feed(0x6d61726b, 0x7320313b, 0x70657273, 0x6f6e2031, 0x20372020);
+        Check.due("call 2", m.island(), 1);
+        for (int call = 3; call <= 512; call++) {
+            Check.due("call " + call, m.rest(), call - 2);
+        }
     }
 
     private static void feedsUpToTheBrim() {

@@ -3,6 +3,10 @@ import java.util.Random;
 /** Runs of 512 calls, made up by a seed, on the class and on the Model: each answer must be the same. */
 public final class ModelTest {
     private static final int RUNS = 1500;
+    private static final int MOST_CALLS = 512;
+
+    /** A text of 400 bytes is twenty feeds, an end ahead of them and one behind, and the call that reads it. */
+    private static final int MOST_CALLS_AT_ONCE = 23;
     private static final String[] WORDS = {"teller", "hearer", "of", "hour", "face", "tie", "moved", "steps"};
     private static final String[] SIGNS = {"<", "<=", "=", ">=", ">"};
     private static final String[] ODD = {";", "[", "]", "not ", "if ", "or ", "and ", "tell ", "weigh ", "marks ",
@@ -35,8 +39,12 @@ public final class ModelTest {
                 read(ruleText(), false);
             }
         }
-        while (number < 512) {
+        while (number <= MOST_CALLS - MOST_CALLS_AT_ONCE) {
             call(random.nextInt(40));
+        }
+        while (number < MOST_CALLS) {
+            int c = near(13);
+            same("count " + c, mirror.count(c), model.count(c));
         }
     }
 
