@@ -533,7 +533,7 @@ public final class OneMirror {
     private int peopleWhoKnow(Isle on) {
         int people = 0;
         for (int person = 0; person < on.people; person++) {
-            if (mind.believed(on, inForce(), person) == on.faces[person]) {
+            if (mind.believed(on, inForce(), person) == on.faceOf(person)) {
                 people++;
             }
         }
